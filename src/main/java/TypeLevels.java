@@ -61,7 +61,7 @@ public final class TypeLevels {
         asked = new int[TEXT_ROOM];
         told = new Told();
         code = new Code();
-        reader = new Reader(code, text);
+        reader = new Reader(code);
         store = new Store();
         table = new Table(store);
         trial = new Table(store);
@@ -451,7 +451,7 @@ public final class TypeLevels {
         int best = NOTHING;
         int least = LETTERS + 1;
         for (int what = 0; what < Heard.KINDS; what++) {
-            for (int v = 0; Heard.mayBe(what, v); v++) {
+            for (int v = 0; v <= Heard.highest(what); v++) {
                 int left = heardOf.leftAtMost(table, bits, what, v);
                 if (left < least) {
                     least = left;
@@ -805,9 +805,9 @@ public final class TypeLevels {
         private int refused;
         private boolean holes;
 
-        Reader(Code orders, int[] text) {
+        Reader(Code orders) {
             code = orders;
-            signs = text;
+            signs = new int[0];
             refused = NONE;
         }
 
@@ -2294,12 +2294,13 @@ public final class TypeLevels {
             size = 0;
         }
 
-        static boolean mayBe(int what, int v) {
-            return what >= 0 && what < KINDS && v >= 0 && v <= HIGHEST[what];
+        /** The highest number that may be heard of a kind. */
+        static int highest(int what) {
+            return what >= 0 && what < KINDS ? HIGHEST[what] : NONE;
         }
 
         boolean add(int what, int v) {
-            if (size >= KEPT || !mayBe(what, v)) {
+            if (size >= KEPT || v < 0 || v > highest(what)) {
                 return false;
             }
             whats[size] = what;
