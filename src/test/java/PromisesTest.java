@@ -471,6 +471,20 @@ public final class PromisesTest {
         type("(((((((?(T,1,2))))))))", 1, 100);
         stays("((((((((?(T,1,2)))))))))", -9);
         type("((1))+((1))+((((((((1))))))))", 1, 100);
+        // each with all that belongs to it: seven are open around, then one more
+        String[] ones = {"[x=1]2", "[x=(1)]2", "[x=1](2)", "{1,2}", "{(1),2}", "{1,(2)}", "?(T,1,2)", "?((T),1,2)",
+            "?(T,(1),2)", "?(T,1,(2))", "%x.1", "%x.(1)", "$x.1", "$x.(1)", "&{1,2}", "&a"};
+        int[] at = {0, 3, 5, 0, 1, 3, 0, 2, 4, 6, 0, 3, 0, 3, 1, 0};
+        for (int i = 0; i < ones.length; i++) {
+            boolean two = at[i] > 0;
+            text("(((((((" + ones[i] + ")))))))");
+            int answer = t.type();
+            due("seven around " + ones[i], answer < -8 && answer > -40, two);
+            text("((((((" + ones[i] + "))))))");
+            answer = t.type();
+            due("six around " + ones[i], answer > 0 || answer == -102, true);
+            stays("(((((((" + (two ? "" : "(") + ones[i] + ")))))))", -1 - (7 + (two ? at[i] : 1)));
+        }
         type("1234", -100, 0);
         type("%x.x+123", 3, 102, 100, 100);
         promise("9 type, 76 signs");
@@ -490,6 +504,7 @@ public final class PromisesTest {
         type("[f=(%x.x)(%x.x)]{f1,fT}", -100, 20);
         type("[f=@(%x.x)](!f)1", 1, 100);
         type("[f={%x.x,%x.x}]{(&f)1,(&f)T}", 3, 103, 100, 101);
+        type("[f=%x.x][g=f]{g1,gT}", 3, 103, 100, 101);
         // shadows: the innermost first
         type("%x.[x=1]x", 3, 102, 0, 100);
         type("[x=T]%x.x+1", 3, 102, 100, 100);
@@ -515,6 +530,8 @@ public final class PromisesTest {
         type("%x.%y.(!a){x,y}", 7, 102, 1000, 102, 1001, 103, 1000, 1001);
         type("{%x.x,a}", 8, 103, 102, 0, 0, 104, 102, 1000, 1000);
         type("[f=%z.!a]{(f1)1,(f1)T}", -100, 17);
+        type("[f=%z.!a](f1)T", 1, 101);
+        type("[f=%z.!a]f", 5, 102, 0, 102, 1000, 1000);
     }
 
     private static void blames() {
@@ -531,6 +548,7 @@ public final class PromisesTest {
         // a letter as a HOLE is as one bound by %: it is not general
         blames("[f=x]{f1,fT}", 0);
         blames("[f=%x.x+1]{f1,fT}", 3, 6, 14, 15);
+        blames("[x={1,%y.y}]{(&x)1,{(|x)1,(|x)T}}", 1, 15);
         blames("12T", 1, 0);
         blames("1234", 1, 0);
         blames("(%x.x+1)T", 2, 4, 8);
@@ -577,7 +595,9 @@ public final class PromisesTest {
         // a HOLE is as a letter bound by % around all: not general, and no VALUE
         hole("[f=%x._]{f1,f1+1}", 1, 2, 100);
         hole("[f=_]{f1,fT}", -100, 9);
-        hole("", -1, 9);
+        hole("[f={_,%y.y}]{(|f)1,(|f)2}", 1, 1 + 2 + 4 + 16, 0);
+        hole("[f={_,%y.y}]{(|f)1,(|f)T}", -100, 20);
+        hole("", -1, 20);
         hole("b", 0);
         due("the ROW is empty", t.count(7), 0);
         promise("11 hole, 24 nodes");
@@ -591,6 +611,10 @@ public final class PromisesTest {
         due("hole", t.hole(), -105);
         text("[x={{1,1},{1,1}}]_xx1<1");
         due("hole", t.hole(), 1 + 7 + 1 + 7 + 1 + 1 + 1);
+        text("[x={{1,1},{{1,1},{1,1}}}]_x{{1,1},{{1,1},@1}}+1");
+        due("24 nodes", t.hole(), 24);
+        text("[x={{1,1},{{1,1},{1,1}}}]_xx+1");
+        due("25 nodes", t.hole(), -105);
     }
 
     private static void parts() {
@@ -624,6 +648,9 @@ public final class PromisesTest {
         text("[x={{1,1},{{1,1},{1,T}}}][f=$z.z]fx+1");
         due("parts", t.parts(), 11 + 2 + 5 + 1 + 1);
         row(1, 1, 3, 1, 1, 3, 1, 1, 3, 7, 11, 13, 13, 13);
+        text("[x={{1,1},{{1,1},{1,1}}}]@{x,x}");
+        due("24 nodes", t.parts(), 16);
+        row(1, 1, 3, 1, 1, 3, 1, 1, 3, 7, 11, 11, 11, 23);
     }
 
     // ---- definitions among themselves
@@ -695,6 +722,12 @@ public final class PromisesTest {
         text("c=%x.[z=?(T,x,{{1,1},{1,1}})]$y.y");
         due("defines", t.defines(), 9);
         due("one", t.one(0, 2), 23);
+        // 2 and 11 and 11 may be, 2 and 12 and 12 not
+        defines("d=%x.@x", 4, 102, 0, 104, 0);
+        due("one", t.one(3, 1), 24);
+        text("e=%x.[z=?(T,x,{{1,1},{{1,1},{1,@1}}})]$y.y");
+        due("defines", t.defines(), 14);
+        due("one", t.one(3, 4), -105);
     }
 
     private static void puts() {
@@ -776,6 +809,18 @@ public final class PromisesTest {
         due("weak", t.ways(0, 8), 0);
         due("weak", t.ways(6, 0), 1);
         row(8);
+        promise("18 ways, -104");
+        text("a={{1,1},{{1,1},{1,1}}}");
+        due("defines", t.defines(), 11);
+        defines("b=%x.@{x,@x}", 7, 102, 0, 104, 103, 0, 104, 0);
+        defines("c=%y.[z=!y]T", 4, 102, 104, 0, 101);
+        defines("d=F", 1, 101);
+        // b put to a has 25 nodes
+        due("ways", t.ways(0, 3), -2);
+        defines("e=%x.@{x,x}", 6, 102, 0, 104, 103, 0, 0);
+        // e put to a has 24
+        due("ways", t.ways(0, 3), 2);
+        row(4, 2);
     }
 
     private static void sorts() {
@@ -1035,6 +1080,15 @@ public final class PromisesTest {
         defines("c=1+1", 1, 100);
         due("a VALUE or not", t.asks(), 300);
         row(2);
+        promise("27 asks, the highest number");
+        text("a=[x={{1,1},{{1,1},{1,1}}}]@{x,x}");
+        due("defines", t.defines(), 24);
+        text("b=[x={{1,1},{{1,1},{1,1}}}]@{x,{{1,1},{{1,1},@1}}}");
+        due("defines", t.defines(), 23);
+        due("asks", t.asks(), 124);
+        row(1);
+        t.heard(1, 24);
+        due("fits", t.fits(), 1);
     }
 
     // ---- other modes
