@@ -32,7 +32,7 @@ public final class TypeLevels {
     private static final int TOO_LONG = -200;
     private static final int WRONG = -201;
 
-    private static final int BLAMED = 14;
+    private static final int TOLD_FIRST = 14;
     private static final int TOLD_OF_VALUE = 12;
     private static final int TRIED = 12;
     // far above what any walk over the rooms below can need
@@ -189,7 +189,7 @@ public final class TypeLevels {
         told.clear();
         for (int at = from; at < to; at++) {
             if (code.isSign(at) && finder.find(table, Code.TEXT, modesNow, at) == 0) {
-                if (blamed < BLAMED) {
+                if (blamed < TOLD_FIRST) {
                     told.add(code.placeOf(at));
                 }
                 blamed++;
@@ -237,7 +237,7 @@ public final class TypeLevels {
             }
         }
         told.clear();
-        for (int i = 0; i < all && i < BLAMED; i++) {
+        for (int i = 0; i < all && i < TOLD_FIRST; i++) {
             told.add(store.nodesOf(finder.partFound(i)));
         }
         return all;

@@ -298,8 +298,11 @@ public final class FuzzTest {
         TypeLevels ours = new TypeLevels();
         Oracle due = new Oracle();
         List<String> calls = new ArrayList<>();
-        int letters = 1 + upTo(10);
+        int letters = run % 3 == 0 ? 10 : 1 + upTo(10);
         try {
+            if (run % 3 == 0) {
+                fill(ours, due, calls);
+            }
             for (int i = 0; i < 300; i++) {
                 String text = textFor(letters);
                 int kind = kindOf(text);
@@ -324,6 +327,21 @@ public final class FuzzTest {
         }
     }
 
+    /** Many definitions at once, by any modes, so that calls among them find something. */
+    private void fill(TypeLevels ours, Oracle due, List<String> calls) {
+        int modes = upTo(8);
+        ours.modes(modes);
+        due.modes(modes);
+        calls.add("modes(" + modes + ")");
+        for (int i = 0; i < 24; i++) {
+            String e = upTo(3) == 0 ? typed(goal(2), new ArrayList<>(), 3) : KNOWN[upTo(KNOWN.length)];
+            String t = (char) ('a' + upTo(10)) + "=" + e;
+            give(ours, due, t);
+            calls.add("\"" + t + "\" defines");
+            compare(0, calls, "answered", ours.defines(), due.defines());
+        }
+    }
+
     private static final String[] NAMES = {
         "type", "comes", "hole", "blames", "parts", "defines", "cut", "modes", "undo", "definition", "scheme",
         "general", "one", "applies", "behind", "flips", "ways", "sorts", "largest", "gives", "finds", "heard",
@@ -341,7 +359,7 @@ public final class FuzzTest {
         if (text.length() > 1 && text.charAt(1) == '=') {
             return upTo(12) == 0 ? upTo(7) : 5;
         }
-        int kind = upTo(3) > 0 ? upTo(5) : 6 + upTo(NAMES.length - 6);
+        int kind = upTo(2) > 0 ? upTo(5) : 6 + upTo(NAMES.length - 6);
         if ((kind == 8 || kind == 22) && upTo(6) > 0) {
             return kind == 8 ? 5 : 21;
         }
@@ -467,7 +485,7 @@ public final class FuzzTest {
 
     public static void main(String[] args) {
         int from = args.length > 0 ? Integer.parseInt(args[0]) : 1;
-        int to = args.length > 1 ? Integer.parseInt(args[1]) : 400;
+        int to = args.length > 1 ? Integer.parseInt(args[1]) : 900;
         long compared = 0;
         for (int run = from; run <= to; run++) {
             FuzzTest test = new FuzzTest(run * 7919L);
