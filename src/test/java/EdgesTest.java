@@ -470,6 +470,17 @@ public final class EdgesTest extends Tries {
         comes("[c=@1]!c+(c~5)+!c", 0, 0, 0, 11);
         comes("[c=@1]{c,c~5}", 3, 0, 3, 4, 0, 5, 0, 5);
         comes("[c=@1]c~!c+1", 0, 0, 0, 2);
+        sentence("its letter standing for what the first came to, in the second alone");
+        comes("[x=1]{{[x=2]x,x},[x=x+2]x}", 3, 0, 3, 3, 0, 2, 0, 1, 0, 3);
+        comes("[x=1](%y.[x=2]x+y)x", 0, 1, 0, 3);
+        comes("[x=1]((%x.x)2)+x", 0, 1, 0, 3);
+        comes("[x=1]($x.2)+x", 0, 0, 0, 3);
+        sentence("& the first of a PAIR, | the second");
+        comes("&{1,T}", 0, 0, 0, 1);
+        comes("|{1,T}", 1, 0, 1, 1);
+        comes("&{{2,3},{T,F}}", 3, 0, 3, 0, 2, 0, 3);
+        comes("|{{2,3},{T,F}}", 3, 0, 3, 1, 1, 1, 0);
+        comes("{|&{{2,3},4},!&{@5,6}}", 3, 0, 3, 0, 3, 0, 5);
         sentence("a DEFINITION as its EXPRESSION, which is done each time anew, where it is told");
         given("a=@1", "b=%x.!a+x", "c=2");
         comes("{a~5,!a}", 3, 2, 3, 0, 5, 0, 1);

@@ -97,6 +97,17 @@ public final class LimitsTest extends Tries {
         due("end(80)", t.end(80), true);
         due("end(0)", t.end(0), true);
         due("signs", t.count(8), 0);
+        sentence("3: THE TEXT has its first n signs alone");
+        for (int n = 3; n >= 0; n--) {
+            write(t, "a=1");
+            due("end", t.end(n), true);
+            due("defines", t.defines(), n == 3 ? 1 : -1 - n);
+        }
+        for (int n = 3; n >= 0; n--) {
+            write(t, "1+T");
+            due("end", t.end(n), true);
+            due("type", t.type(), new int[] {-1, 1, -3, -100}[n]);
+        }
     }
 
     private static void defines() {
@@ -306,6 +317,21 @@ public final class LimitsTest extends Tries {
         }
         t.undo();
         throwsNoSuch("what was undone", o -> o.definition(0, 0));
+        sentence("7: how many GENERAL VARIABLES, how many WEAK ones");
+        given("a=$x.x");
+        t.modes(6);
+        given("b=$x.x", "c=%x.%y.{x,x}");
+        int[][] variables = {{0, 1}, {1, 0}, {2, 0}};
+        for (int x = 0; x < variables.length; x++) {
+            due("GENERAL ones of " + x, t.definition(x, 2), variables[x][0]);
+            due("WEAK ones of " + x, t.definition(x, 3), variables[x][1]);
+        }
+        sentence("7: FUNs that one comes through, behind first parts of all kinds");
+        given("a=%f.%g.f(g1)", "b=%p.%x.&p", "c=%c.%x.!c", "d=%f.%p.f(&p)(|p)", "e={%x.x,1}");
+        for (int x = 0; x < 4; x++) {
+            due("definition(" + x + ", 4)", t.definition(x, 4), 2);
+        }
+        due("definition(4, 4)", t.definition(4, 4), 0);
         sentence("7: how many FUNs one comes through by their second parts");
         given("a=1", "b=%f.f1+1", "c=%x.{%y.y,1}", "d=%x.@(%y.y)", "e=%a.%b.%c.%d.%e.%f.%g.%h.1");
         int[] through = {0, 1, 1, 1, 8};
@@ -431,6 +457,11 @@ public final class LimitsTest extends Tries {
         answers("parts", LET + "[f=$z.z]fx" + TEN + "+1", 31);
         row(1, 1, 3, 1, 1, 3, 1, 1, 3, 7, 11, 24, 24, 24);
         keeps("parts", LET + "[f=$z.z]fxx+1", -105);
+        // the first alone
+        given("a=$x.x", "b=" + ELEVEN, "c=" + TEN);
+        keeps("parts", "abb+1", -105);
+        answers("parts", "abc+1", 7);
+        row(24, 11, 12, 10, 1, 1, 1);
         // beyond the first 14, too
         keeps("parts", LET + "[w=1][f=$z.z]fxx+1", -105);
         answers("parts", LET + "[w=1][f=$z.z]fx" + TEN + "+1", 33);
@@ -507,7 +538,40 @@ public final class LimitsTest extends Tries {
         }
     }
 
+    private static void generalOfParts() {
+        sentence("13: one TYPE for a VARIABLE, wherever it stands");
+        given("a=%x.x", "b=%x.{|x+0,?(&x,T,F)}", "c=%x.{?(&x,T,F),|x+0}", "d=%x.%y.x");
+        t.scheme(1);
+        row(102, 103, 101, 100, 103, 100, 101);
+        t.scheme(2);
+        row(102, 103, 101, 100, 103, 101, 100);
+        due("general(0, 1)", t.general(0, 1), 0);
+        due("general(0, 2)", t.general(0, 2), 1);
+        given("e=%f.%x.f1+x", "f=%f.%x.[u=f1+x]%y.f(y+0)+0", "g=%f.[u=f1+1]f", "h=%f.[u=f1+1]%x.?(f1<1,x,T)");
+        t.scheme(6);
+        row(102, 102, 100, 100, 102, 100, 100);
+        t.scheme(7);
+        row(102, 102, 100, 100, 102, 101, 101);
+        due("general(0, 6)", t.general(0, 6), 1);
+        due("general(0, 7)", t.general(0, 7), 0);
+        due("general(0, 4)", t.general(0, 4), 1);
+        due("general(3, 4)", t.general(3, 4), 0);
+        due("general(3, 5)", t.general(3, 5), 1);
+        given("i=%p.%q.?(T,p,{q,&{1,T}})");
+        t.scheme(8);
+        row(102, 103, 0, 100, 102, 0, 103, 0, 100);
+        due("general(3, 8)", t.general(3, 8), 1);
+        due("general(8, 3)", t.general(8, 3), 0);
+    }
+
     private static void one() {
+        sentence("14: a question ahead of it is forgotten");
+        given("a=@(%x.x)", "b=@(%x.1)");
+        type("(!a)T", 1, 101);
+        due("one", t.one(0, 1), 4);
+        row(104, 102, 100, 100);
+        due("one", t.one(0, 0), 4);
+        row(104, 102, 1000, 1000);
         sentence("14: -105: it has more than 24 NODES");
         given("a=%x.@x", "b=%x.@@x", "c=%x.[z=?(T,x," + ELEVEN + ")]$y.y", "d=%x.[z=?(T,x," + TEN + ")]$y.y");
         due("one", t.one(0, 2), 24);
@@ -616,6 +680,26 @@ public final class LimitsTest extends Tries {
         given("a=%x.x", "b=1", "c=T");
         due("ways", t.ways(1, 2), -2);
         due("ways", t.ways(1, 1), 0);
+        sentence("18: by the first letter, by the last");
+        given("a=%x.x<1", "b=1", "c=T", "j=%x.{x,x}", "d={T,T}");
+        due("ways", t.ways(1, 2), 1);
+        row(0);
+        due("ways", t.ways(2, 3), 1);
+        row(9);
+        due("ways", t.ways(1, 3), 2);
+        row(0, 9);
+        sentence("18: -104, 24 NODES");
+        given("a=" + ELEVEN, "b=%x.@{x,x}", "c=%c.[u=!c]T", "d=F");
+        due("ways", t.ways(0, 3), 2);
+        row(1, 2);
+        sentence("18: what WEAK ones became on a way that leads nowhere is forgotten");
+        given("a=@(%x.x)", "b=%c.(!c)1", "c=%c.(!c)T", "d=F");
+        due("ways", t.ways(0, 3), 1);
+        row(2);
+        sentence("18: a question ahead of it is forgotten");
+        given("a=@(%x.x)", "b=@(%x.1)");
+        type("(!a)T", 1, 101);
+        due("ways", t.ways(0, 1), 0);
         sentence("18: WEAK ones become something on the way");
         given("a=@(%x.x)", "b=%c.(!c)1", "c=@(%x.x<1)", "d=1", "e=%c.(!c)2");
         // a is the CELL of a FUN from INT to INT then, and no longer one to BOOL
@@ -667,6 +751,13 @@ public final class LimitsTest extends Tries {
         t.undo();
         due("largest", t.largest(), -2);
         row(1, 0);
+        sentence("20: the most NODES");
+        given("a=1", "b=@1");
+        due("largest", t.largest(), 1);
+        row(2, 0);
+        given("c=@@1");
+        due("largest", t.largest(), 2);
+        row(3, 0);
         sentence("20: of as many the first in order");
         given("i=%x.x", "a=%x.x+1", "b=T");
         due("largest", t.largest(), 8);
@@ -931,6 +1022,36 @@ public final class LimitsTest extends Tries {
         given("a=%x.1", "b=%x.x+1");
         due("asks", t.asks(), 200);
         row(1);
+        sentence("27: the last v of each what");
+        given("a=1", "b=T", "c=$x.x", "d=$x.x");
+        due("asks", t.asks(), 5);
+        row(2);
+        sentence("27: the last v of each what, NODES");
+        answers("defines", "a=" + LET + "@{x,x}", 24);
+        answers("defines", "b=" + LET + "@{x,{{1,1},{{1,1},@1}}}", 23);
+        due("asks", t.asks(), 124);
+        row(1);
+        sentence("27: the last v of each what, GENERAL VARIABLES");
+        String eight = "=%a.%b.%c.%d.%e.%f.%g.%h.";
+        given("j=%x.$y.y", "a" + eight + "j1", "b" + eight + "j2", "c" + eight + "1", "d" + eight + "h+1");
+        // all but j have 17 NODES
+        t.heard(1, 17);
+        due("asks", t.asks(), 209);
+        row(2);
+        sentence("27: the last v of each what, FUNs");
+        String seven = "=%a.%b.%c.%d.%e.%f.%g.?(a+b+c+d<e+f+g,";
+        given("i=%x.%y.x+y", "h=%x.{x,x+0}", "j={1,{1,1}}", "a" + seven + "i,i)", "b" + seven + "i,i)",
+                "c" + seven + "h,h)", "d" + seven + "j,j)");
+        // all but h, i and j have 19 NODES
+        t.heard(1, 19);
+        due("asks", t.asks(), 409);
+        row(2);
+        sentence("27: all ten are left");
+        for (char c = 'a'; c <= 'j'; c++) {
+            given(c + "=1");
+        }
+        due("asks", t.asks(), 0);
+        row(10);
         sentence("27: the last that may be asked");
         given("a=1", "b=1+1");
         due("asks", t.asks(), 300);
@@ -1036,6 +1157,7 @@ public final class LimitsTest extends Tries {
         parts();
         noneSuch();
         general();
+        generalOfParts();
         one();
         puts();
         ways();
