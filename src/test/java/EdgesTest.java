@@ -130,7 +130,7 @@ public final class EdgesTest extends Tries {
         due("as many", ahead.length, may.length);
         for (int i = 0; i < ahead.length; i++) {
             sentence("the sign at p can't stand there, behind " + ahead[i]);
-            for (char c = 1; c < 128; c++) {
+            for (char c = 0; c < 256; c++) {
                 int answer = reads(t, "type", ahead[i] + c);
                 due("the sign " + c + " can't stand", answer == -1 - ahead[i].length(), may[i].indexOf(c) < 0);
             }
