@@ -292,6 +292,12 @@ public final class EdgesTest extends Tries {
         given("a=@(%x.x)");
         type("[g=%y.!a]{g(1)T,g(1)1}", -100, 16);
         type("[g=%y.!a]{g(1)1,g(1)2}", 3, 103, 100, 100);
+        sentence("each VARIABLE that is not in the TYPE of a letter bound around: not of one that was, in another text");
+        for (int k = 1; k <= 5; k++) {
+            type("[x=(%p.p)(%q.q)]x", 3, 102, 0, 0);
+            int nodes = reads(t, "type", many("%y.", k) + "[z=%w.w]{z1,zT}");
+            due("each y is a VARIABLE, a FUN is ahead of it", nodes, 2 * k + 3);
+        }
         sentence("(that of a HOLE, too)");
         tells("hole", "[g=%y._]{g1+1,gT+1}", 1, 0, 100);
         tells("hole", "[g=%y._]{g1+1,?(gT,1,2)}", -100, 14);
@@ -492,6 +498,11 @@ public final class EdgesTest extends Tries {
         comes("$f.[c=@0]?((c~!c+1)<1,f,!c)", 0, 0, 0, 1);
         comes("$x.7", 0, 0, 0, 7);
         comes("[x=3][f=%y.x+y][x=100]f1", 0, 1, 0, 4);
+        comes("$x.[x=4]x", 0, 0, 0, 4);
+        sentence("ITSELF: done anew with what letters stand for around it, not around its letter");
+        comes("[c=@0](%y.$x.?((c~!c+1)<3,(%y.x)9,y))5", 0, 5, 0, 5);
+        comes("[c=@0]$x.?((c~!c+1)<3,[c=@50]x,!c)", 0, 2, 0, 3);
+        comes("[y=5][c=@0]($f.%x.?((c~!c+1)<3,[y=7]f(x+y),x+y))1", 0, 5, 0, 20);
     }
 
     private static void sets() {

@@ -23,10 +23,16 @@ public final class FuzzTest {
     };
 
     private final Random random;
+    // few letters in some runs, so that they are bound anew within themselves
+    private final String letters;
+    // many changes of MODES in some runs, so that more than are kept can be undone
+    private final boolean restless;
     private int compared;
 
-    private FuzzTest(long seed) {
-        random = new Random(seed);
+    private FuzzTest(int run) {
+        random = new Random(run * 7919L);
+        letters = run % 2 == 0 ? "xyzwab" : "xya";
+        restless = run % 5 == 0;
     }
 
     private int upTo(int n) {
@@ -77,7 +83,7 @@ public final class FuzzTest {
     }
 
     private char bound() {
-        return "xyzwab".charAt(upTo(6));
+        return letters.charAt(upTo(letters.length()));
     }
 
     private String leaf() {
@@ -190,7 +196,7 @@ public final class FuzzTest {
                 return "[" + letter + "=" + typed(other, around, depth) + "]"
                         + typed(goal, with(around, letter, other), depth);
             case 4:
-                return "$" + letter + "." + typed(goal, with(around, letter, goal), depth);
+                return itself(goal, with(around, letter, goal), letter, depth);
             case 5:
                 return "&" + typedFactor("*" + goal + other, around, depth);
             case 6:
@@ -208,6 +214,34 @@ public final class FuzzTest {
                 }
                 return plain(goal, around, depth);
         }
+    }
+
+    /** With a cell that counts around it, ITSELF comes to an end. */
+    private String itself(String goal, List<String> around, char letter, int depth) {
+        if (!around.contains("c@I")) {
+            return "$" + letter + "." + typed(goal, around, depth);
+        }
+        String again = upTo(2) == 0 ? typed(goal, around, depth) : rebound(around, letter);
+        return "$" + letter + ".?((c~!c+1)<" + upTo(5) + "," + again + "," + typed(goal, around, depth - 1) + ")";
+    }
+
+    /** A letter behind another one that is let to be something else there. */
+    private String rebound(List<String> around, char letter) {
+        String other = around.get(upTo(around.size()));
+        if (other.charAt(0) == letter || other.charAt(0) == 'c') {
+            return String.valueOf(letter);
+        }
+        return "[" + other.charAt(0) + "=" + typed(other.substring(1), around, 1) + "]" + letter;
+    }
+
+    private String counted() {
+        String goal = goal(1);
+        char let = bound();
+        char letter = bound();
+        List<String> around = with(with(new ArrayList<>(), 'c', "@I"), let, goal);
+        String e = upTo(2) == 0 ? typed(goal(1), around, 2 + upTo(3))
+                : itself(goal, with(around, letter, goal), letter, 1 + upTo(2));
+        return "[c=@0][" + let + "=" + typed(goal, new ArrayList<>(), 1) + "]" + e;
     }
 
     private String mutated(String text) {
@@ -241,9 +275,12 @@ public final class FuzzTest {
 
     private String expression() {
         String e;
-        switch (upTo(6)) {
+        switch (upTo(7)) {
             case 0:
                 e = wild(1 + upTo(4));
+                break;
+            case 6:
+                e = counted();
                 break;
             case 1:
             case 2:
@@ -358,6 +395,9 @@ public final class FuzzTest {
     private int kindOf(String text) {
         if (text.length() > 1 && text.charAt(1) == '=') {
             return upTo(12) == 0 ? upTo(7) : 5;
+        }
+        if (restless && upTo(3) == 0) {
+            return upTo(6) == 0 ? 8 : 7;
         }
         int kind = upTo(2) > 0 ? upTo(5) : 6 + upTo(NAMES.length - 6);
         if ((kind == 8 || kind == 22) && upTo(6) > 0) {
@@ -488,7 +528,7 @@ public final class FuzzTest {
         int to = args.length > 1 ? Integer.parseInt(args[1]) : 900;
         long compared = 0;
         for (int run = from; run <= to; run++) {
-            FuzzTest test = new FuzzTest(run * 7919L);
+            FuzzTest test = new FuzzTest(run);
             test.run(run);
             compared += test.compared;
         }

@@ -174,6 +174,15 @@ public final class LimitsTest extends Tries {
         due("NODES", t.definition(0, 1), 24);
         keeps("defines", "d=(!!b)" + ELEVEN, -105);
         answers("defines", "d=1", 1);
+        sentence("4: -105, by what stands behind a WEAK one");
+        given("a=%x.%y.{{x,y},{y,x}}", "b=%p.%q.{{p,q},q}", "c=(%x.x)(%y.1)");
+        keeps("defines", "d=c{a,a}", -105);
+        t.scheme(2);
+        row(102, 1000, 100);
+        defines("d=c(@{a,b})", 1, 100);
+        due("NODES", t.scheme(2), 24);
+        row(102, 104, 103, 102, 1000, 102, 1001, 103, 103, 1000, 1001, 103, 1001, 1000,
+                102, 1002, 102, 1003, 103, 103, 1002, 1003, 1003, 100);
         sentence("4: -105 is asked behind the FAULTS");
         given("a=@(%x.x)");
         defines("b={(!a)" + TWELVE + ",1T}", -100, 30);
@@ -248,6 +257,7 @@ public final class LimitsTest extends Tries {
         due("none is left", t.count(0), 0);
         due("MODES", t.count(2), 7);
         manyUndone();
+        undoneBehindMany();
         sentence("6: such as were done");
         given("a=1");
         t.modes(7);
@@ -272,6 +282,24 @@ public final class LimitsTest extends Tries {
         t.scheme(0);
         row(104, 102, 1000, 102, 1001, 1000);
         comes("{b,!a2T}", 3, 6, 3, 0, 1, 0, 2);
+    }
+
+    /** A defines() behind any number of other changes is undone as one is that comes first. */
+    private static void undoneBehindMany() {
+        for (int n = 0; n <= 60; n++) {
+            sentence("6: what WEAK ones became are as ahead of it, behind " + n + " changes");
+            given("a=@(%x.x)");
+            for (int i = 1; i <= n; i++) {
+                t.modes(i % 2 == 0 ? 7 : 6);
+            }
+            given("b=(!a)1");
+            due("WEAK ones", t.count(3), 0);
+            due("undo", t.undo(), Math.min(n + 1, 23));
+            due("DEFINITIONS", t.count(0), 1);
+            due("WEAK ones", t.count(3), 1);
+            t.scheme(0);
+            row(104, 102, 1000, 1000);
+        }
     }
 
     /** Many changes and undos, against a list of what MODES were. */

@@ -1,4 +1,4 @@
-/** The largest texts, types and values that may be, and an object's whole life of 512 calls. */
+/** Texts, types and values as large as may be, or nearly, and an object's whole life of 512 calls. */
 public final class RoomsTest extends Tries {
     private static final String CHAIN = "%p.%q.%r.%s.%t.%u.%v.b";
     private static final int LIFE = 512;
@@ -25,7 +25,7 @@ public final class RoomsTest extends Tries {
         due("NODES", t.count(4), 9 + 23 + 15 + 7 * 23);
     }
 
-    private static void largestTexts() {
+    private static void largeTexts() {
         sentence("1: at most 76 signs, most of them letters of a TYPE of 23 NODES");
         largeOnes();
         String large = eight("haaaaaaa");
@@ -44,8 +44,8 @@ public final class RoomsTest extends Tries {
                 102, 1008, 102, 1009, 102, 1010, 1011);
     }
 
-    private static void largestValues() {
-        sentence("21: 100 STEPS, each with as much left to do as may be");
+    private static void largeValues() {
+        sentence("21: 100 STEPS, each with much left to do");
         given("d=$f.%n.?(n<1,0,@1~1+(@1~1+(@1~1+(@1~1+f(n-1)))))");
         tells("comes", "d49", 0, 100, 0, 196);
         keeps("comes", "d50", -200);
@@ -77,11 +77,18 @@ public final class RoomsTest extends Tries {
             due("one", t.one(1, 1), 5);
             due("law", t.law(6), 0);
         }
+        sentence("512 calls, half of them with more than 100 STEPS");
+        given("d=$f.%n.?(n<1,0,@1~1+(@1~1+(@1~1+(@1~1+f(n-1)))))");
+        for (int calls = 40; calls + 2 <= LIFE; calls += 2) {
+            due("gives", t.gives(3, 50), -200);
+            due("gives", t.gives(3, 49), 0);
+        }
+        row(196, 100);
     }
 
     public static void main(String[] args) {
-        largestTexts();
-        largestValues();
+        largeTexts();
+        largeValues();
         farthestWay();
         wholeLife();
         ends("rooms");
