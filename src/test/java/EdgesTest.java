@@ -335,6 +335,10 @@ public final class EdgesTest extends Tries {
         answers("type", "[u=(!!a)" + TEN + "]a", 23);
     }
 
+    private static String eight(String what, String between) {
+        return many(what + between, 7) + what;
+    }
+
     private static void places() {
         sentence("the PLACE of a FAULT: the first sign of the part; of A B, A + B, A < B, A ~ B: of A; ( ) aside");
         String[] unlike = {"1T", "(1)T", "((1)T)", "((1))T", "(1T)", "{1,(2)T}", "(%x.x+T)", "(T)+1", "1+(T)", "(1)+T",
@@ -350,6 +354,15 @@ public final class EdgesTest extends Tries {
         due("as many", unlike.length, place.length);
         for (int i = 0; i < unlike.length; i++) {
             type(unlike[i], -100, place[i]);
+        }
+        given("h=%p.%q.%r.%s.%t.%u.%v.1");
+        String[] far = {"{1,([x=1]x)T}", "{1,{1,2}T}", "{1,?(T,1,2)T}", "{1,(&{1,2})T}", "{1,(%x.x)1T}", "{1,($x.1)T}",
+            "{1," + eight("1", "+") + "<T}", "{1," + eight("1", "-") + "~1}", "{1,h" + many("T", 7) + "+T}",
+            "{1,h" + many("T", 7) + "<T}", "{1,@1~" + eight("1", "+") + "=T}"};
+        int[] farAt = {4, 3, 3, 4, 4, 4, 3, 3, 3, 3, 6};
+        due("as many", far.length, farAt.length);
+        for (int i = 0; i < far.length; i++) {
+            type(far[i], -100, farAt[i]);
         }
         String[] inside = {"$x.@x", "($x.@x)", "1+($x.{x,1})", "%x.xx", "(%x.(x)x)", "%x.x~x", "%x.?(T,x,@x)"};
         int[] insideAt = {0, 1, 3, 3, 5, 3, 3};

@@ -851,6 +851,10 @@ public final class LimitsTest extends Tries {
         row(5, 3);
         due("gives", t.gives(0, -7), 0);
         row(-7, 2);
+        given("i=%b.?(T,1,?(b,2,3))");
+        due("gives, a FAULT, though it would come to an int", t.gives(8, 0), -2);
+        due("finds", t.finds(8, 1), -2);
+        row(102, 101, 100);
         sentence("22: -200: more than 100 STEPS");
         given("a=1", "c=$f.%x.?(x=0,0,f(x-1))", "d=%x.cx", "e=%x.cx+a");
         due("gives", t.gives(2, 49), 0);
@@ -864,6 +868,10 @@ public final class LimitsTest extends Tries {
         due("gives", t.gives(4, 48), -200);
         due("gives", t.gives(2, -1), -200);
         row(1, 99);
+        given("f=$f.%x.1+|{T,fx}", "g=$f.%x.1+|{@T,fx}", "h=$f.%x.1+|{%y.y,fx}");
+        due("gives, a BOOL being left", t.gives(5, 1), -200);
+        due("gives, a CELL being left", t.gives(6, 1), -200);
+        due("gives, a FUNCTION being left", t.gives(7, 1), -200);
         sentence("22: -201: it GOES WRONG, or comes to what is no int");
         t.modes(6);
         given("a=%n.[c=@(%x.x)][d=c~(%x.T)](!c)n", "b=%n.[c=@(%x.x)][d=c~(%x.?(x,T,F))](!c)n",
